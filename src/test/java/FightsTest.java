@@ -12,6 +12,7 @@ public final class FightsTest {
         theFirstSideStrikesFirst();
         livingUnitsTakeTurns();
         largerFights();
+        longFights();
         fightsChangeNothing();
         fightRefuses();
         Checks.finish();
@@ -118,6 +119,12 @@ public final class FightsTest {
         fightDue(team(31, 1, 51, 31, 1), team(82, 11, 61, 51), -3, 4);
         fightDue(team(61, 81, 22, 81, 31), team(71, 31, 41, 31, 41), 3, -2);
         fightDue(team(42, 1, 1, 32), team(82, 41, 61, 41), 1, 1);
+    }
+
+    private static void longFights() {
+        // 52 blows each, the most that a search found for boards that one pool allows; so 60 are never reached.
+        fightDue(team(73, 22, 41, 1, 1), team(82, 53, 11, 1, 11), -1, 4);
+        fightDue(team(63, 22, 22, 21, 11), team(82, 53, 11, 1, 11), -1, 4);
     }
 
     private static Gladehall twoBoards() {

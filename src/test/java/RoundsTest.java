@@ -206,12 +206,13 @@ public final class RoundsTest {
 
     private static void incomeOf(int gold, int due) {
         Gladehall hall = new Gladehall();
-        while (hall.gold(3) < gold) {
+        for (int i = 0; i < 20 && hall.gold(3) < gold; i++) {
             hall.round();
         }
-        while (hall.gold(3) > gold) {
+        for (int i = 0; i < 10 && hall.gold(3) > gold; i++) {
             hall.roll(3);
         }
+        Checks.due("gold ahead", hall.gold(3), gold);
         hall.round();
         Checks.due("gold of " + gold, hall.gold(3), due);
     }
