@@ -308,10 +308,9 @@ public final class Gladehall {
     }
 
     private void fillShop(Player keeper) {
+        // An empty slot holds no kind, so nothing goes back from it.
         for (int slot = 0; slot < SLOTS; slot++) {
-            if (keeper.shop[slot] != NONE) {
-                stock.putBack(keeper.shop[slot], 1);
-            }
+            stock.putBack(keeper.shop[slot], 1);
         }
         for (int slot = 0; slot < SLOTS; slot++) {
             keeper.shop[slot] = stock.draw(numbers.take(), keeper.level + 1);
@@ -377,7 +376,9 @@ public final class Gladehall {
         }
 
         private void putBack(int kind, int count) {
-            units[kind] += count;
+            if (kind >= 0 && kind < KINDS) {
+                units[kind] += count;
+            }
         }
 
         private int unitsUpTo(int highestCost) {
@@ -625,6 +626,12 @@ public final class Gladehall {
             return NONE;
         }
 
+        private void takeBlow(int place, int strength) {
+            if (place >= 0 && place < size) {
+                healths[place] -= strength;
+            }
+        }
+
         /** The place of the unit whose turn it is; behind it the turn goes to the one after it. */
         private int takeTurn() {
             for (int step = 0; step < size; step++) {
@@ -661,7 +668,7 @@ public final class Gladehall {
                 if (striker == NONE || target == NONE) {
                     return;
                 }
-                struck.healths[target] -= striking.strengths[striker];
+                struck.takeBlow(target, striking.strengths[striker]);
                 struckPlaces[number] = target;
                 struckHealths[number] = striking.strengths[striker];
                 blowsStruck++;
@@ -671,7 +678,7 @@ public final class Gladehall {
         private void redo() {
             for (int number = 0; number < blowsStruck; number++) {
                 Side struck = number % 2 == 0 ? second : first;
-                struck.healths[struckPlaces[number]] -= struckHealths[number];
+                struck.takeBlow(struckPlaces[number], struckHealths[number]);
             }
         }
 

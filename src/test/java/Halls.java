@@ -25,6 +25,24 @@ final class Halls {
         hall.round();
     }
 
+    /** A hall in which the player has just so much gold, 0 to 100, and at most its shop holds units of it. */
+    static Gladehall withGold(int player, int gold) {
+        Gladehall hall = new Gladehall();
+        for (int i = 0; i < 17 && hall.gold(player) < gold; i++) {
+            roundOfLockedShops(hall);
+        }
+        spendDownTo(hall, player, gold);
+        return hall;
+    }
+
+    /** Rolls until the player has just so much gold. */
+    static void spendDownTo(Gladehall hall, int player, int gold) {
+        while (hall.gold(player) > gold) {
+            hall.roll(player);
+        }
+        Checks.due("gold at hand", hall.gold(player), gold);
+    }
+
     /** A rich hall in which each player has the level 5, with 84 gold left. */
     static Gladehall grown() {
         Gladehall hall = rich();
@@ -82,6 +100,13 @@ final class Halls {
             buy(hall, player, unit / 10, stars == 1 ? 1 : stars == 2 ? 3 : 9);
             hall.toBoard(player, 0);
         }
+    }
+
+    /** A unit of a shop just rolled comes to the board; takes 2 gold of a player whose bench is empty. */
+    static void field(Gladehall hall, int player) {
+        hall.roll(player);
+        hall.buy(player, 0);
+        hall.toBoard(player, 0);
     }
 
     static String shop(Gladehall hall, int player) {

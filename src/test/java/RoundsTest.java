@@ -40,13 +40,6 @@ public final class RoundsTest {
         return ofAll(Gladehall::streak, hall);
     }
 
-    /** The first unit of its shop, kind 0, on the board of a new hall's player; the number of rounds is still 0. */
-    private static void field(Gladehall hall, int player) {
-        hall.roll(player);
-        hall.buy(player, 0);
-        hall.toBoard(player, 0);
-    }
-
     // Promises 10 and 11
 
     private static void roundsAreCounted() {
@@ -62,7 +55,7 @@ public final class RoundsTest {
 
     private static Gladehall ended() {
         Gladehall hall = new Gladehall();
-        field(hall, 2);
+        Halls.field(hall, 2);
         for (int i = 0; i < 200; i++) {
             hall.round();
         }
@@ -85,7 +78,7 @@ public final class RoundsTest {
         };
         for (int player = 0; player < Halls.PLAYERS; player++) {
             Gladehall hall = new Gladehall();
-            field(hall, player);
+            Halls.field(hall, player);
             for (int i = 0; i < 5; i++) {
                 hall.round();
                 Checks.due("healths behind round " + i + " with units of " + player, healths(hall), losers[player][i]);
@@ -96,7 +89,7 @@ public final class RoundsTest {
     private static void theLowerPlayerStrikesFirst() {
         Gladehall hall = new Gladehall();
         for (int player = 0; player < Halls.PLAYERS; player++) {
-            field(hall, player);
+            Halls.field(hall, player);
         }
         hall.round();
         Checks.due("the lower one wins", healths(hall) + " / " + streaks(hall), "20 18 20 18 / 1 -1 1 -1");
@@ -124,8 +117,8 @@ public final class RoundsTest {
 
     private static void streaksTurn() {
         Gladehall hall = new Gladehall();
-        field(hall, 0);
-        field(hall, 1);
+        Halls.field(hall, 0);
+        Halls.field(hall, 1);
         hall.round();
         hall.round();
         hall.round();
@@ -145,7 +138,7 @@ public final class RoundsTest {
 
     private static void streaksEndWithADraw() {
         Gladehall hall = new Gladehall();
-        field(hall, 0);
+        Halls.field(hall, 0);
         hall.round();
         Checks.due("a win and a loss", streaks(hall), "1 -1 0 0");
         hall.toBench(0, 0);
@@ -220,7 +213,7 @@ public final class RoundsTest {
     private static void incomeByStreak() {
         Gladehall hall = new Gladehall();
         for (int player = 0; player < 2; player++) {
-            field(hall, player);
+            Halls.field(hall, player);
         }
         hall.round();
         Checks.due("streaks 1, -1, 0, 0", golds(hall), "11 11 14 14");
@@ -278,7 +271,7 @@ public final class RoundsTest {
 
     private static Gladehall midGame() {
         Gladehall hall = new Gladehall();
-        field(hall, 1);
+        Halls.field(hall, 1);
         hall.round();
         hall.toggleLock(1);
         hall.tell(30);
