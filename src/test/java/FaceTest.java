@@ -45,7 +45,42 @@ public final class FaceTest {
         Constructor<?>[] constructors = Gladehall.class.getDeclaredConstructors();
         Checks.due("the constructors", constructors.length, 1);
         Checks.due("the constructor", constructors[0].toString(), "public Gladehall()");
+        nestedClassesAreHidden();
+        noPrivateMethodBearsAPublicName();
         Checks.finish();
+    }
+
+    /** "the classes inside it, which are private or package-visible and static", with nothing public in them. */
+    private static void nestedClassesAreHidden() {
+        for (Class<?> nested : Gladehall.class.getDeclaredClasses()) {
+            int modifiers = nested.getModifiers();
+            Checks.due(nested + " is hidden", modifiers & (Modifier.PUBLIC | Modifier.PROTECTED), 0);
+            Checks.due(nested + " is static", Modifier.isStatic(modifiers), true);
+            for (Method method : nested.getDeclaredMethods()) {
+                Checks.due(method + " is private", Modifier.isPrivate(method.getModifiers()), true);
+            }
+        }
+    }
+
+    /** "No private method bears the name of a public one." */
+    private static void noPrivateMethodBearsAPublicName() {
+        TreeSet<String> names = new TreeSet<>();
+        for (String line : FACE) {
+            names.add(line.substring(line.indexOf(' ') + 1, line.indexOf('(')));
+        }
+        TreeSet<String> borne = new TreeSet<>();
+        for (Method method : Gladehall.class.getDeclaredMethods()) {
+            if (Modifier.isPrivate(method.getModifiers())) {
+                borne.add(method.getName());
+            }
+        }
+        for (Class<?> nested : Gladehall.class.getDeclaredClasses()) {
+            for (Method method : nested.getDeclaredMethods()) {
+                borne.add(method.getName());
+            }
+        }
+        borne.retainAll(names);
+        Checks.due("names of the face that private methods bear", borne, new TreeSet<String>());
     }
 
     private static TreeSet<String> methodsSeen() {
